@@ -1150,7 +1150,9 @@ public final class PuntYard {
                 take(word >= 0 && word < Law.ASKED ? word : NEVER);
                 int sign = tokens[at];
                 take(isComparison(sign) ? sign : NEVER);
-                law.emit(Law.testOf(word, sign - '<', takeNumber(0, MOST_COIN)));
+                int number = tokens[at];
+                take(number >= NUMBER ? number : NEVER);
+                law.emit(Law.testOf(word, sign - '<', number - NUMBER));
             }
             if ((inner - open) % 2 == 1) {
                 law.emit(Law.NOT);
