@@ -181,6 +181,7 @@ public final class PuntYardPromises {
         faultAt("price 31 1 each 60;", 6);
         faultAt("busy 0 to 719 100;", NONE);
         faultAt("busy 720 to 719 100;", 5);
+        faultAt("busy 719 to 719 0;", NONE);
         faultAt("busy 100 to 99 1;", 12);
         faultAt("busy 100 to 100 1;", NONE);
         faultAt("busy 100 to 720 1;", 12);
@@ -196,6 +197,12 @@ public final class PuntYardPromises {
         faultAt("right 9 4 240;", 8);
         faultAt("right 9 3 0;", 10);
         faultAt("harm 5;", NONE);
+        faultAt("harm 100;", NONE);
+        faultAt("harm 101;", 5);
+        faultAt(times(900, ";"), 0);
+        faultAt(times(900, "#"), 0);
+        faultAt("rain 1;" + times(893, "("), 7);
+        faultAt("shut if day=1" + times(110, "or day=1") + ";", NONE);
         faultAt("harm 5 if;", 9);
         faultAt("harm 5 if", 9);
         faultAt("harm 5 water < 3;", 7);
@@ -452,6 +459,8 @@ public final class PuntYardPromises {
         shuts("day=8 and day=8 and day=8 and week=2", false);
         shuts(times(8, "(day=1 or week=1 and ") + "day=8" + times(8, ")"), true);
         shuts(times(8, "(day=1 or week=1 and ") + "day=7" + times(8, ")"), false);
+        shuts("day=1" + times(109, "or day=1") + "or day=8", true);
+        shuts("not day=8" + times(72, "or not day=8") + "or not day=7", true);
         shuts("day=1;shut if day=8", true);
         PuntYard x = under("shut if out>1;");
         x.boat(0);
@@ -731,6 +740,13 @@ public final class PuntYardPromises {
         last.rain(0, 600, 659);
         due("the last hour but one", last.worst(0, 2, 0), 659);
         due("all is wet", last.worst(0, 2, 1), 100);
+        PuntYard early = under("price 0 100 each 240;rain 100;");
+        early.boat(0);
+        early.out(0, 1, 0, 1);
+        early.back(0, 61);
+        due("from the first minute", early.worst(0, 2, 0), 0);
+        early.rain(0, 0, 0);
+        due("from the second minute", early.worst(0, 2, 0), 1);
         promise = 25;
         due("none together", x.together(1, 2, 0, 4, 0), 0);
         due("none is first", x.together(1, 2, 0, 4, 1), NONE);
@@ -872,8 +888,8 @@ public final class PuntYardPromises {
         due("81", five.least(1, 81), 5);
         due("none up to 12", five.least(3, 81), NONE);
         due("48 of 60", five.least(3, 80), 12);
-        due("part 101", five.least(1, 101), NONE);
-        due("part -1", five.least(1, -1), NONE);
+        due("part 101", none.least(1, 101), NONE);
+        due("part -1", none.least(1, -1), NONE);
         due("0 hours", five.least(0, 1), NONE);
         due("4 hours", five.least(4, 1), NONE);
     }
@@ -1130,6 +1146,9 @@ public final class PuntYardPromises {
         due("fine -1", x.tout(1, -1, 0), NO_COIN);
         due("what 4", x.tout(1, 1, 4), NO_COIN);
         due("what -1", x.tout(1, 1, -1), NO_COIN);
+        PuntYard poor = new PuntYard();
+        poor.loyal(1);
+        due("a price of one", poor.tout(0, 0, 0), 1);
         PuntYard even = new PuntYard();
         even.loyal(100);
         even.loyal(0);
