@@ -620,6 +620,14 @@ public final class PuntYardPromises {
         x.out(0, 1, 730, 1);
         x.back(5, 800);
         dueBill(x, 5, 13, 70, 50, 20);
+        PuntYard y = under("price 0 1 each 1;right 1 0 50;");
+        for (int i = 0; i < 3; i++) {
+            y.boat(0);
+            y.out(i, 1, 100 + i, 1);
+            y.back(i, i == 0 ? 149 : 110);
+        }
+        dueBill(y, 1, 6, 9, 1, 8);
+        dueBill(y, 2, 6, 8, 0, 8);
         promise = 23;
         due("cost", x.cost(1, 13), 30 + 3 + 5 + 50);
         due("cost by 6", x.cost(1, 6), 10 + 40);
@@ -632,11 +640,11 @@ public final class PuntYardPromises {
     }
 
     private static void busyMost() {
-        PuntYard x = under("price 0 7 each 240;" + times(9, "busy 0 to 719 100;") + "busy 5 to 5 99;");
+        PuntYard x = under("price 0 999 each 240;" + times(9, "busy 0 to 719 100;") + "busy 5 to 5 99;");
         x.boat(0);
         x.out(0, 0, 5, 1);
         x.back(0, 6);
-        dueBill(x, 0, 2, 1, 0, 70);
+        dueBill(x, 0, 2, 1, 0, 9990);
         PuntYard y = under("price 0 7 each 240;busy 5 to 5 33;busy 6 to 9 100;busy 0 to 4 100;");
         y.boat(0);
         y.out(0, 0, 5, 1);
@@ -1197,6 +1205,12 @@ public final class PuntYardPromises {
         due("what it passes", x.barred(0, 3), 0x8002);
         x.mend(0, 1440 + 119);
         due("never out", x.barred(0, 4), 0x8000);
+        PuntYard behind = new PuntYard();
+        behind.boat(0);
+        behind.regatta(0, 110, 119, 6);
+        behind.out(0, 0, 120, 20);
+        behind.pass(0, 0xffff, false);
+        due("behind the regatta", behind.barred(0, 1), 0);
         x.out(1, 0, 720 + 120, 20);
         x.pass(1, 0xffff, true);
         due("another day", x.barred(1, 5), 0x8000);
