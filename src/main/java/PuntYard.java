@@ -1799,6 +1799,8 @@ public final class PuntYard {
     /** Boats at the ROLLER. */
     private static final class Roller {
         private static final int MOST = 7;
+        // Above what all may wait together.
+        private static final int ANY_SUM = 1000000;
 
         int boats;
         private final int[] comes = new int[MOST];
@@ -1827,7 +1829,7 @@ public final class PuntYard {
         }
 
         void solve() {
-            leastSum = Integer.MAX_VALUE;
+            leastSum = ANY_SUM;
             place(this, 0, 0, 0, 0);
         }
 
@@ -1978,6 +1980,8 @@ public final class PuntYard {
     /** BOATS that lie dry for PAINT, and what their failing would cost. */
     private static final class Dock {
         private static final int MOST = 10;
+        // Above what all may lose together.
+        private static final int ANY_COIN = 1000000;
 
         private final int[] dryWeeks = new int[BOATS];
         private final int[] dryCoin = new int[BOATS];
@@ -2041,7 +2045,7 @@ public final class PuntYard {
             listDry();
             orderDry();
             int choices = berths == 1 ? 1 : 1 << dryBoats;
-            best = Integer.MAX_VALUE;
+            best = ANY_COIN;
             for (int choice = 0; choice < choices; choice++) {
                 int coin = coinLost(choice);
                 if (coin < best) {

@@ -5,6 +5,7 @@ import com.sun.source.tree.ClassTree;
 import com.sun.source.tree.CompilationUnitTree;
 import com.sun.source.tree.LambdaExpressionTree;
 import com.sun.source.tree.MemberReferenceTree;
+import com.sun.source.tree.MemberSelectTree;
 import com.sun.source.tree.MethodInvocationTree;
 import com.sun.source.tree.MethodTree;
 import com.sun.source.tree.NewArrayTree;
@@ -199,6 +200,15 @@ public final class PuntYardLanguage {
                 calls.get(place).add(called);
             }
             return super.visitMethodInvocation(tree, v);
+        }
+
+        @Override
+        public Void visitMemberSelect(MemberSelectTree tree, Void v) {
+            Element element = trees.getElement(getCurrentPath());
+            if (element != null && element.getKind().isField() && name(element).startsWith("java.")) {
+                complain("rule 4, line " + line(tree, false) + ": " + name(element));
+            }
+            return super.visitMemberSelect(tree, v);
         }
 
         @Override
