@@ -34,12 +34,22 @@ public final class PuntYardEdges {
         facesOfTexts();
         depthsOfTexts();
         lawsOfDays();
+        withoutRules();
+        behindFaults();
         river();
+        spells();
+        weed();
         tape();
         hires();
+        mends();
         tellings();
+        fullTellings();
+        knownBy();
+        toldLater();
+        toldLast();
         outAtMoments();
         shutAtMoments();
+        shutByWords();
         free();
         prices();
         lateness();
@@ -55,16 +65,21 @@ public final class PuntYardEdges {
         queues();
         chances();
         keep();
+        leastBoats();
         protect();
         roller();
         guides();
+        guideOfSeveral();
         poles();
         paint();
         renew();
         touts();
         swans();
+        regattas();
         images();
+        restoredOver();
         counts();
+        newObject();
         anyArguments();
         System.out.println(wrong == 0 ? "all edges hold" : wrong + " answers at the edges are not as due");
         if (wrong != 0) {
@@ -181,6 +196,7 @@ public final class PuntYardEdges {
             x.boat(kind);
         }
         x.out(3, 5, 200, 7);
+        x.swamp(0, 78);
         x.out(2, 6, 210, 8);
         x.swamp(1, 77);
         x.cushions(1, 9, 0);
@@ -194,6 +210,7 @@ public final class PuntYardEdges {
         x.party(8, 300);
         x.pay(90);
         x.party(4, 7);
+        x.party(8, 6);
         x.pass(0, 0xff00, true);
         x.pass(1, 0xf00f, true);
         x.paint(0, 9, 9);
@@ -204,11 +221,13 @@ public final class PuntYardEdges {
         x.fail(2, 3, 3);
         x.loyal(300);
         x.loyal(400);
-        x.nest(9, 3, 4);
-        x.regatta(1, 1, 2, 0x0f);
+        x.nest(9, 0, 0);
+        x.regatta(1, 700, 719, 0x0f);
         x.cut(3);
         x.doubt(1, 2);
         x.chance(0, 0, 1);
+        x.chance(11, 0, 7);
+        x.chance(11, 5, 0);
     }
 
     // All that can be asked, in some 250 calls; what is left on the tape is read last.
@@ -477,6 +496,14 @@ public final class PuntYardEdges {
                 faultAt(text + other, text.length());
                 faultAt(text + other + " rain 5;", text.length());
             }
+            if (i < TOKENS.length && Character.isLetter(TOKENS[i].charAt(0))) {
+                String word = TOKENS[i];
+                String[] misspelt = {"q" + word.substring(1), word.substring(0, word.length() - 1) + "q", word + "q",
+                    word.substring(1) + "q", word.substring(0, word.length() - 1), word.substring(1), word + word};
+                for (String other : misspelt) {
+                    faultAt(text + other + " ", text.length());
+                }
+            }
             text += i < TOKENS.length ? TOKENS[i] + " " : "";
         }
         sentence = "FAULT: the first token with which no such text goes on, of those that are tokens elsewhere";
@@ -658,7 +685,12 @@ public final class PuntYardEdges {
         due("day 7, rain", same.rule(7, 43), 13);
         due("day 6", same.rule(6, 0), 4);
         due("day 3", same.rule(3, 43), 14);
+    }
+
+    private static void withoutRules() {
         sentence = "none: one without RULES";
+        PuntYard same = new PuntYard();
+        law(same, "rain 14;price 3 1 each 2;", 3);
         due("day 2", same.rule(2, 0), NONE);
         int[][] bare = {{10, 0}, {23, 60}, {33, 0}, {40, 0}, {41, 60}, {42, 0}, {43, 0}, {44, 0}, {193, 0}};
         for (int[] pair : bare) {
@@ -690,6 +722,9 @@ public final class PuntYardEdges {
         due("its place", first.fault(), 13);
         due("the tape is empty then", first.count(8), 0);
         due("no LAW of it", first.count(0), 1);
+    }
+
+    private static void behindFaults() {
         sentence = "law: a FAULT is no LAW";
         PuntYard again = new PuntYard();
         due("a FAULT", law(again, "price 0 1 each 2;deposit 0 3;late 4 each 5 grace 6;rain 7;cushion 8;right 0 0 9;"
@@ -708,12 +743,24 @@ public final class PuntYardEdges {
         again.back(0, 1);
         due("no busy hours", again.bill(0, 3, 2), 100);
         due("harm", again.bill(0, 3, 5), 30);
+        PuntYard often = under("", 0);
+        for (int i = 0; i < 6; i++) {
+            due("a FAULT behind much", law(often, "shut if day=1" + times(100, "or day=1") + "?", 0), NONE);
+            due("its place", often.fault(), 13 + 800);
+        }
+        due("a LAW behind them", law(often, "shut if day=2" + times(109, "or day=3") + ";", 0), 1);
+        due("its first word", often.free(0, 2 * 720), 0);
+        due("its last word", often.free(0, 3 * 720), 0);
+        due("none of theirs", often.free(0, 720), 1);
         sentence = "fault: of the latest law() that was a number or NONE";
+        PuntYard first = new PuntYard();
+        due("a FAULT", law(first, "rain 5;rain 6", 0), NONE);
+        due("its place", first.fault(), 13);
         due("-2", first.law(1, 0), -2);
         due("as before", first.fault(), 13);
         due("-2", first.law(0, 100), -2);
         due("as before", first.fault(), 13);
-        due("a number", first.law(0, 0), 1);
+        due("a number", first.law(0, 0), 0);
         due("it had none", first.fault(), NONE);
     }
 
@@ -733,6 +780,9 @@ public final class PuntYardEdges {
         due("0", ends.free(0, 720), 0);
         due("99", ends.free(0, 1440), 0);
         due("98", ends.free(0, 3 * 720), 1);
+    }
+
+    private static void spells() {
         sentence = "SPELLS of rain, up to 40";
         PuntYard full = new PuntYard();
         for (int i = 1; i <= 40; i++) {
@@ -760,6 +810,9 @@ public final class PuntYardEdges {
         z.rain(0, 6, 8);
         due("dry", z.free(0, 4), 0);
         due("wet by two", z.free(0, 6), 1);
+    }
+
+    private static void weed() {
         sentence = "WEED: RATE (0 to 99, 0 at first)";
         range("weed, rate", 0, 99, 0, (w, v) -> bit(w.weed(v)));
         due("at first", new PuntYard().count(299), 0);
@@ -882,6 +935,9 @@ public final class PuntYardEdges {
         refused("back at another moment", PuntYardEdges::rich, y -> y.back(0, 191), NONE);
         sentence = "mend: NONE: it isn't back";
         refused("mend", PuntYardEdges::rich, y -> y.mend(1, 150), NONE);
+    }
+
+    private static void mends() {
         sentence = "mend: not behind the next OUT of its BOAT";
         Maker again = () -> {
             PuntYard y = rich();
@@ -924,6 +980,29 @@ public final class PuntYardEdges {
         due("the last", x.hire(119, 2), 1190);
         due("none behind", x.hire(120, 2), NONE);
         due("another telling", x.mend(119, 1195), 241);
+        due("the last in bills", x.bill(119, 241, 0), 5);
+        due("takings", x.takings(1, 241), 0);
+        due("minutes", x.worn(0, 241, 0), 5);
+        due("hires", x.worn(0, 241, 1), 120);
+        due("minutes of another", x.worn(1, 241, 0), 0);
+        due("the oldest", x.old(0, 241), 0);
+        due("how many differ", x.differ(0, 241, NONE), 120);
+        due("the last that differs", x.differ(0, 241, 119), 119);
+        due("none behind", x.differ(0, 241, 120), NONE);
+        due("the last is OUT", x.outs(1194, 241), 1);
+        due("cost", x.cost(9, 241), 0);
+        due("worst", x.worst(1, 241, 1), 0);
+        due("together", x.together(9, 8, 1, 241, 0), 0);
+        due("pole", x.pole(119), 0);
+        due("barred", x.barred(119, 241), 0);
+        due("queue", x.queue(0, 2, 1194, 0), 0);
+        due("hire 120", bit(x.pass(120, 1, true)), 0);
+        due("hire 119", bit(x.pass(119, 1, true)), 1);
+        due("hire 118", bit(x.pass(118, 3, true)), 1);
+        due("the last one passes", x.pole(118), 2);
+    }
+
+    private static void fullTellings() {
         sentence = "TELLINGS, numbered from 1 on, 400 at most";
         PuntYard y = under("", 0, 0);
         due("out", y.out(0, 0, 5, 5), 0);
@@ -951,6 +1030,18 @@ public final class PuntYardEdges {
         due("it isn't back", late.known(0, 400), NONE);
         due("OUT still", late.outs(100, 400), 1);
         due("not free", late.free(0, 100), 0);
+        PuntYard last = under("", 0, 0);
+        last.out(0, 0, 5, 5);
+        for (int t = 2; t <= 399; t++) {
+            last.swamp(0, 1);
+        }
+        due("OUT as the 400th", last.out(1, 9, 71999, 1), 1);
+        due("its telling", last.hire(1, 4), 400);
+        due("known by it", last.known(1, 400), NONE);
+        due("not told ahead of it", last.known(1, 399), -2);
+    }
+
+    private static void knownBy() {
         sentence = "Calls that tell of HIRES and do it are TELLINGS";
         PuntYard none = rich();
         none.out(0, 3, 100, 60);
@@ -989,20 +1080,55 @@ public final class PuntYardEdges {
         due("not told by then", nothing.bill(0, 0, 0), NO_COIN);
         due("not back by then", nothing.bill(0, 2, 0), NO_COIN);
         due("back by then", nothing.bill(0, 3, 0), 90);
+    }
+
+    private static void toldLater() {
+        sentence = "AS KNOWN: HIRES told later are none, though more was asked before";
+        PuntYard then = under("price 0 1 each 1;rain 100;right 2 0 20;", 0, 0, 0);
+        hired(then, 0, 1, 100, 1, 130);
+        hired(then, 1, 2, 110, 1, 150);
+        int[] first = {0, 0, 30, 30, 30};
+        int[] second = {0, 0, 0, 0, 20};
+        int[] both = {0, 0, 0, 20, 20};
+        int[] outs = {0, 1, 1, 3, 3};
+        for (int t = 4; t >= 0; t--) {
+            due("takings by 4", then.takings(0, 4), 50);
+            due("takings by " + t, then.takings(0, t), first[t] + second[t]);
+            due("worst by 4", then.worst(0, 4, 1), 50);
+            due("worst by " + t, then.worst(0, t, 1), first[t] + second[t]);
+            due("cost by 4", then.cost(2, 4), 20);
+            due("cost by " + t, then.cost(2, t), second[t]);
+            due("minutes by 4", then.worn(1, 4, 0), 40);
+            due("minutes by " + t, then.worn(1, t, 0), 2 * second[t]);
+            due("hires by 4", then.worn(1, 4, 1), 1);
+            due("hires by " + t, then.worn(1, t, 1), second[t] / 20);
+            due("together by 4", then.together(1, 2, 0, 4, 0), 20);
+            due("together by " + t, then.together(1, 2, 0, t, 0), both[t]);
+            due("outs by 4", then.outs(120, 4), 3);
+            due("outs by " + t, then.outs(120, t), outs[t]);
+        }
+        hired(then, 2, 2, 50, 1, 60);
+        for (int t = 4; t <= 6; t++) {
+            due("FREE by 6", then.bill(1, 6, 1), 10);
+            due("FREE by " + t, then.bill(1, t, 1), t == 6 ? 10 : 20);
+        }
+    }
+
+    private static void toldLast() {
         sentence = "what was told last holds";
-        PuntYard last = rich();
-        last.mend(0, 150);
-        last.mend(0, 719);
-        last.swamp(0, 7);
-        last.swamp(0, 0);
-        last.cushions(0, 0, 0);
+        PuntYard mended = rich();
+        mended.mend(0, 150);
+        mended.mend(0, 719);
+        mended.swamp(0, 7);
+        mended.swamp(0, 0);
+        mended.cushions(0, 0, 0);
         int[] known = {-2, NONE, NONE, 190, 190, 190, 150, 719, 719, 719, 719};
         int[] harm = {0, 0, 0, 0, 50, 50, 50, 50, 7, 0, 0};
         int[] cushions = {0, 0, 0, 0, 0, 12, 12, 12, 12, 12, 0};
         for (int t = 0; t <= 10; t++) {
-            due("known by " + t, last.known(0, t), known[t]);
-            due("harm by " + t, last.bill(0, t, 5), t < 3 ? NO_COIN : harm[t]);
-            due("cushions by " + t, last.bill(0, t, 8), t < 3 ? NO_COIN : cushions[t]);
+            due("known by " + t, mended.known(0, t), known[t]);
+            due("harm by " + t, mended.bill(0, t, 5), t < 3 ? NO_COIN : harm[t]);
+            due("cushions by " + t, mended.bill(0, t, 8), t < 3 ? NO_COIN : cushions[t]);
         }
     }
 
@@ -1069,6 +1195,9 @@ public final class PuntYardEdges {
                 }
             }
         }
+    }
+
+    private static void shutByWords() {
         sentence = "NUMBER 999 is asked for";
         String[] dense = {"weed=999", "weed>998", "weed<999", "weed>999", "minute<999", "minute=999", "not weed<999"};
         boolean[] isSo = {true, true, false, false, true, false, true};
@@ -1118,6 +1247,10 @@ public final class PuntYardEdges {
         sentence = "ANY: ALL {or ALL}; ALL: ONE {and ONE}; not ONE";
         String[] holds = {"day=1 or day=0 and day=1", "day=0 and day=1 or day=1", "not day=0 and day=1", "not day=0 or day=0",
             "not (day=0 or day=2)", "not (day=1 and day=2)", "not not (day=1)", "(day=1 or day=2) and (day=0 or day=1)"};
+        String[] zero = {"day=1 or water<0", "water<0 or day=1", "not water<0", "not (day=0 or water<0)"};
+        for (String condition : zero) {
+            shut(condition, under("shut if " + condition + ";", 0), 0, 720, true);
+        }
         String[] fails = {"(day=1 or day=0) and day=2", "day=0 and (day=1 or day=1)", "not day=1 and day=1", "not day=1 or day=0",
             "not (day=0 or day=1)", "not (day=1 and day=1)", "not not not day=1", "day=1 and day=1 and day=2"};
         for (String condition : holds) {
@@ -1412,7 +1545,7 @@ public final class PuntYardEdges {
         due("day 1", x.takings(1, 10), 819);
         PuntYard rainy = under("price 0 100 each 240;rain 100;cushion 3;late 5 each 1 grace 0;deposit 0 99;", 0);
         hired(rainy, 0, 0, 720, 9, 730);
-        rainy.rain(1, 720 - 720, 4);
+        rainy.rain(1, 0, 4);
         due("less WET", rainy.takings(1, 2), 100 + 5 - 50);
         due("dry on another day", rainy.takings(0, 2), 0);
         rainy.cushions(0, 1, 0);
@@ -1456,6 +1589,10 @@ public final class PuntYardEdges {
         dueWorst(x, 0, 590);
         x.mend(0, 0);
         dueWorst(x, 0, 0);
+        PuntYard second = under(text, 0);
+        hired(second, 0, 0, 0, 1, 61);
+        second.rain(0, 0, 0);
+        dueWorst(second, 1, 600);
         sentence = "WORST: the MINUTE 0 to 660";
         hired(x, 1, 0, 600, 1, 719);
         dueWorst(x, 600, 302);
@@ -1707,6 +1844,10 @@ public final class PuntYardEdges {
             due(row[0] + " boats, " + row[1] + " hours", five.keep((int) row[0], (int) row[1], 0), row[2]);
             due("of", five.keep((int) row[0], (int) row[1], 1), 1);
         }
+        due("wanted of 13 boats", five.keep(13, 1, 2), NONE);
+        due("wanted of -1 boats", five.keep(-1, 1, 3), NONE);
+        due("wanted for 0 hours", five.keep(1, 0, 2), NONE);
+        due("wanted for 4 hours", five.keep(1, 4, 3), NONE);
         sentence = "KEEP: it's there again in the n-th hour behind";
         PuntYard few = always(0);
         few.chance(3, 0, 0);
@@ -1762,7 +1903,12 @@ public final class PuntYardEdges {
             fine.chance(hour, 1, 3);
         }
         due("a dozen digits", fine.keep(1, 2, 1), 1000000000000L);
+    }
+
+    private static void leastBoats() {
         sentence = "least: The least k by which at least a PART (0 to 100, in hundredths) of WANTED is served";
+        PuntYard five = always(5);
+        PuntYard none = always(0);
         range("least, n", 1, 3, NONE, (y, v) -> y.least(v, 50));
         range("least, part", 0, 100, NONE, (y, v) -> y.least(1, v));
         int[][] least = {{1, 0, 0}, {1, 1, 1}, {1, 20, 1}, {1, 21, 2}, {1, 40, 2}, {1, 100, 5}, {2, 90, 9}, {2, 91, 10},
@@ -1931,6 +2077,9 @@ public final class PuntYardEdges {
         many.party(2, 0);
         due("as many, of no coin", many.guided(0), 2);
         due("no coin", many.guided(1), 0);
+    }
+
+    private static void guideOfSeveral() {
         sentence = "the guide who has EARNED least (of several the least number; none behind all)";
         PuntYard least = new PuntYard();
         least.guide(1);
@@ -2039,6 +2188,13 @@ public final class PuntYardEdges {
         due("it PASSES none", x.pole(0), 65535);
         x.pass(0, 0xffff, true);
         due("its own being CLEAN is none", x.pole(0), 65535);
+        PuntYard turned = under("", 0, 0);
+        turned.out(0, 0, 500, 1);
+        turned.out(1, 0, 100, 1);
+        turned.pass(0, 0x000f, true);
+        turned.pass(1, 0x00ff, false);
+        due("told first, OUT later", turned.pole(1), 0x00f0);
+        due("told later, OUT first", turned.pole(0), 0x000f);
         x.pass(0, 0, true);
         due("it PASSES none any more", x.pole(0), 0);
         due("CLEAN", x.hire(0, 6), 1);
@@ -2226,6 +2382,9 @@ public final class PuntYardEdges {
         twin.out(0, 0, 0, 1);
         twin.pass(0, 65535, false);
         due("two nests in one", twin.barred(0, 1), 0x0010);
+    }
+
+    private static void regattas() {
         sentence = "REGATTAS (10 at most)";
         PuntYard y = under("", 0);
         y.out(0, 0, 0, 1);
@@ -2329,6 +2488,9 @@ public final class PuntYardEdges {
         changeAll(twice);
         twice.restore(1);
         due("all is as it was", bit(all(twice).equals(all(imaged.made()))), 1);
+    }
+
+    private static void restoredOver() {
         sentence = "IMAGES: All is as in an IMAGE, whatever stood in its place";
         PuntYard over = new PuntYard();
         over.image();
@@ -2341,6 +2503,13 @@ public final class PuntYardEdges {
         due("restore", bit(over.restore(0)), 1);
         fillOther(over);
         due("restore", bit(over.restore(1)), 1);
+        for (int day = 4; day < 7; day++) {
+            due("out", over.out(2, 0, 720 * day, 1), plain.out(2, 0, 720 * day, 1));
+            due("back", over.back(day - 2, 720 * day), plain.back(day - 2, 720 * day));
+            over.pass(day - 2, 65535, false);
+            plain.pass(day - 2, 65535, false);
+            due("swans", over.barred(day - 2, over.count(3)), day == 6 ? 0 : 8);
+        }
         due("all is as it was", bit(all(over).equals(all(plain))), 1);
         PuntYard other = new PuntYard();
         other.image();
@@ -2439,6 +2608,13 @@ public final class PuntYardEdges {
         due("searches behind others", bit(behindWorst.equals(searches)), 1);
         int ahead = once.size() - searches.size();
         due("the yard", bit(days.equals(once.subList(ahead - days.size(), ahead))), 1);
+        PuntYard pair = under("", 0);
+        pair.out(0, 1, 258, 1);
+        pair.guide(1);
+        pair.guide(1);
+        pair.party(1, 1);
+        due("none together", pair.together(1, 2, 0, 1, 0), 0);
+        due("guide", pair.guided(10), 0);
         PuntYard mixed = rich();
         mixed.pay(0);
         for (int p = 0; p < 3; p++) {
@@ -2451,6 +2627,9 @@ public final class PuntYardEdges {
             mixed.together(3, 4, 0, 5, 0);
             due("guided behind together", mixed.guided(1), p == 0 ? 0 : p == 1 ? 10 : 30);
         }
+    }
+
+    private static void newObject() {
         sentence = "A new object: No LAWS, BOATS, HIRES";
         PuntYard y = new PuntYard();
         due("fault", y.fault(), NONE);
@@ -2494,10 +2673,13 @@ public final class PuntYardEdges {
             x.fail(b, 100, 999);
             x.paint(b, 9, 99);
         }
-        for (int h = 0; h < 60; h++) {
+        for (int h = 0; h < 120; h++) {
             x.out(h % 20, h % 10, 2160 + h, 1);
-            x.back(h, 2879 - 60 + h / 20 * 20);
-            x.swamp(h, 9999);
+            x.back(h, 2160 + h + 20);
+        }
+        x.mend(119, 2879);
+        for (int t = 242; t <= 400; t++) {
+            x.swamp(t % 120, 9999);
         }
         for (int i = 0; i < 40; i++) {
             x.rain(i % 4, 0, 719);
@@ -2520,6 +2702,11 @@ public final class PuntYardEdges {
     private static void anyArguments() throws Exception {
         sentence = "any arguments are answered";
         int[] odd = {0, -1, 1, MOST, LEAST, 99, 719, 71999, 3, 9, 255};
+        int[] limits = {5, 20, 120, 400, 40, 7, 8, 8, 880, 1, 12, 20, 10, 3};
+        PuntYard full = full();
+        for (int what = 0; what < limits.length; what++) {
+            due("a full yard has of " + what, full.count(what), limits[what]);
+        }
         Maker[] makers = {PuntYard::new, PuntYardEdges::rich, PuntYardEdges::full};
         for (Maker maker : makers) {
             for (Method method : PuntYard.class.getMethods()) {
