@@ -186,7 +186,9 @@ public final class PuntYardEdges {
         x.loyal(30);
         x.loyal(5);
         x.nest(3, 0, 5);
+        x.nest(2, 6, 6);
         x.regatta(0, 150, 160, 0xf0);
+        x.regatta(5, 10, 20, 0x0700);
     }
 
     // As much as fillRich, and nothing of it alike; the LAWS stay.
@@ -222,7 +224,9 @@ public final class PuntYardEdges {
         x.loyal(300);
         x.loyal(400);
         x.nest(9, 0, 0);
+        x.nest(2, 0, 6);
         x.regatta(1, 700, 719, 0x0f);
+        x.regatta(5, 10, 700, 0x0700);
         x.cut(3);
         x.doubt(1, 2);
         x.chance(0, 0, 1);
@@ -2504,11 +2508,11 @@ public final class PuntYardEdges {
         fillOther(over);
         due("restore", bit(over.restore(1)), 1);
         for (int day = 4; day < 7; day++) {
-            due("out", over.out(2, 0, 720 * day, 1), plain.out(2, 0, 720 * day, 1));
-            due("back", over.back(day - 2, 720 * day), plain.back(day - 2, 720 * day));
+            due("out", over.out(2, 0, 720 * day + 30, 1), plain.out(2, 0, 720 * day + 30, 1));
+            due("back", over.back(day - 2, 720 * day + 40), plain.back(day - 2, 720 * day + 40));
             over.pass(day - 2, 65535, false);
             plain.pass(day - 2, 65535, false);
-            due("swans", over.barred(day - 2, over.count(3)), day == 6 ? 0 : 8);
+            due("swans", over.barred(day - 2, over.count(3)), day == 6 ? 4 : 8);
         }
         due("all is as it was", bit(all(over).equals(all(plain))), 1);
         PuntYard other = new PuntYard();
